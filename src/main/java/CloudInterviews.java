@@ -615,6 +615,9 @@ public final class CloudInterviews {
         }
 
         void removeAt(int position) {
+            if (!isWithin(position, 0, count - 1)) {
+                return;
+            }
             int from = position + 1;
             int later = count - from;
             System.arraycopy(ids, from, ids, position, later);
@@ -764,6 +767,9 @@ public final class CloudInterviews {
         }
 
         void removeAt(int post) {
+            if (!has(post)) {
+                return;
+            }
             int from = post + 1;
             int later = count - from;
             System.arraycopy(shapes, from, shapes, post, later);

@@ -76,6 +76,23 @@ public final class ApplicantsTest {
         Check.due("3 others keep what they are", "n30/3", () -> x.shape(2) + "" + x.whiteness(2) + "/" + x.rain(2));
         Check.due("3 no coins", 0, () -> x.removeApplicant(0));
         Check.due("3 references for the last one", 0, () -> x.referencesFor(2));
+        coinsStayWithTheirOwners();
+    }
+
+    private static void coinsStayWithTheirOwners() {
+        CloudInterviews x = new CloudInterviews();
+        x.addApplicant('c', 10, 1);
+        x.addApplicant('c', 20, 2);
+        x.openPost('*', 0, 50, 7);
+        x.hire(0, 1);
+        x.passDays(3);
+        x.removeApplicant(0);
+        Check.due("3 the coins of a later one", 21, () -> x.coins(1));
+        Check.due("3 the post of a later one", 0, () -> x.postOf(1));
+        Check.due("3 the coins again", 21, () -> x.removeApplicant(1));
+        x.addApplicant('c', 30, 3);
+        Check.due("2 no coins in a place that was left", 0, () -> x.coins(2));
+        Check.due("2 no post in a place that was left", false, () -> x.isHired(2));
     }
 
     private static void rejectRainy() {
@@ -94,6 +111,16 @@ public final class ApplicantsTest {
         Check.due("4 the count", 2, x::applicantCount);
         Check.due("4 limit 0", 1, () -> x.rejectRainy(0));
         Check.due("4 the hired one stays", 2, () -> x.filledBy(0));
+        CloudInterviews full = new CloudInterviews();
+        for (int i = 0; i < 10; i++) {
+            full.addApplicant('c', 5, i * 5);
+        }
+        Check.due("4 of a full board", 7, () -> full.rejectRainy(12));
+        Check.due("4 who is left of a full board", 2, () -> full.applicant(2));
+        Check.due("4 all the rest", 3, () -> {
+            full.addApplicant('s', 1, 1);
+            return full.rejectRainy(0);
+        });
     }
 
     private static void counts() {
@@ -194,11 +221,24 @@ public final class ApplicantsTest {
         for (int wrong : new int[] {-1, 3, Integer.MIN_VALUE, Integer.MAX_VALUE}) {
             Check.outOfBounds("15 rank " + wrong, () -> x.applicantByScore(wrong));
         }
+        closeScores();
         Check.due("14 the whiteness less the rain", "40/10", () -> {
             x.openPost('*', 0, 50, 1);
             x.hire(0, 3);
             x.passDays(10);
             return x.score(3) + "/" + (x.score(3) - x.whiteness(3) + x.rain(3));
         });
+    }
+
+    private static void closeScores() {
+        CloudInterviews x = new CloudInterviews();
+        for (int i = 0; i < 10; i++) {
+            x.addApplicant('c', 50 + i, 0);
+        }
+        for (int i = 0; i < 10; i++) {
+            int rank = i;
+            Check.due("15 one point is enough, rank " + i, 9 - i, () -> x.applicantByScore(rank));
+        }
+        Check.outOfBounds("15 a full board has no rank 10", () -> x.applicantByScore(10));
     }
 }

@@ -53,10 +53,12 @@ public final class CommandsTest {
         Check.due("53 what match did", "0 1 -", () -> Check.output(x, x.writePosts()));
         Check.due("53 day", 2, () -> Check.execute(x, "day;day"));
         Check.due("53 what day did", "5 198", () -> x.rain(0) + " " + x.coins(0));
+        Check.due("53 close another one", 1, () -> Check.execute(x, "close 2"));
+        Check.due("53 what that did", "0 1", () -> Check.output(x, x.writePosts()));
         Check.due("53 leave", 1, () -> Check.execute(x, "leave 0"));
         Check.due("53 what leave did", 2, x::applicantCount);
         Check.due("53 each text is one change", 8, x::undoCount);
-        Check.due("53 later commands see earlier ones", 4, () -> Check.execute(x, "apply c1/1;post c0/50=7;hire 3<3;leave 3"));
+        Check.due("53 later commands see earlier ones", 4, () -> Check.execute(x, "apply c1/1;post c0/50=7;hire 2<3;leave 3"));
     }
 
     private static void numbers() {
@@ -100,6 +102,8 @@ public final class CommandsTest {
         malformed(x, "apply", 5);
         malformed(x, "apply ", 6);
         malformed(x, "apply *1/1", 6);
+        malformed(x, "apply 1/1", 6);
+        malformed(x, "post 1/1=1", 5);
         malformed(x, "apply c", 7);
         malformed(x, "apply c1", 8);
         malformed(x, "apply c1/", 9);

@@ -7,6 +7,7 @@ public final class DaysTest {
         dailyWages();
         means();
         writeApplicant();
+        writeOneOfEach();
         writePosts();
         consistency();
         Check.finish("DaysTest");
@@ -142,6 +143,20 @@ public final class DaysTest {
         Check.due("48 coins of one who waits", "c90/3+2$40", () -> Check.output(x, x.writeApplicant(0)));
         x.undo();
         Check.due("50 undo leaves the output", "c90/3+2$40", () -> Check.output(x, 10));
+    }
+
+    private static void writeOneOfEach() {
+        CloudInterviews x = new CloudInterviews();
+        x.addApplicant('s', 7, 0);
+        x.addApplicant('n', 7, 0);
+        x.addReference(1, 0);
+        Check.due("48 one reference", "s7/0+1", () -> Check.output(x, x.writeApplicant(0)));
+        x.openPost('s', 0, 50, 1);
+        x.hire(0, 0);
+        Check.due("48 hired without coins", "s7/0+1@0", () -> Check.output(x, x.writeApplicant(0)));
+        x.passDays(1);
+        x.removeReference(1, 0);
+        Check.due("48 one coin, the first post", "s7/1$1@0", () -> Check.output(x, x.writeApplicant(0)));
     }
 
     private static void writePosts() {

@@ -10,6 +10,7 @@ public final class PostsTest {
         suits();
         favourite();
         candidates();
+        fullBoard();
         Check.finish("PostsTest");
     }
 
@@ -170,5 +171,25 @@ public final class PostsTest {
         Check.due("32 references count", 2, () -> x.bestCandidate(0));
         Check.noSuchElement("32 nobody suits", () -> x.bestCandidate(2));
         Check.due("33 nobody suits", 0, () -> x.candidateCount(2));
+    }
+
+    private static void fullBoard() {
+        CloudInterviews x = new CloudInterviews();
+        for (int i = 0; i < 10; i++) {
+            x.addApplicant('c', 50 + i, 0);
+        }
+        for (int i = 0; i < 6; i++) {
+            x.openPost('c', 52 + i, 50, 10 + i);
+        }
+        Check.due("31 of six", 5, () -> x.favouritePost(9));
+        Check.due("31 the first of six", 0, () -> x.favouritePost(2));
+        Check.due("32 of ten", 9, () -> x.bestCandidate(0));
+        Check.due("33 of ten", 8, () -> x.candidateCount(0));
+        Check.due("37 fills all six", 6, x::match);
+        Check.due("49 all six", "4 5 6 7 8 9", () -> Check.output(x, x.writePosts()));
+        Check.due("45 all six", 75, x::dailyWages);
+        Check.due("22 the first of six", true, () -> x.closePost(0));
+        Check.due("13 the last moves down", 4, () -> x.postOf(9));
+        Check.due("6 the one waits", 5, x::waitingCount);
     }
 }

@@ -56,6 +56,8 @@ public final class ReferencesTest {
         Check.noSuchElement("18 for nobody", () -> x.hasReference(0, 3));
         Check.due("19", "0 1 1", () -> x.referencesFor(0) + " " + x.referencesFor(1) + " " + x.referencesFor(2));
         Check.due("20", "2 0 0", () -> x.referencesFrom(0) + " " + x.referencesFrom(1) + " " + x.referencesFrom(2));
+        x.addReference(2, 0);
+        Check.due("20 for the first one", 1, () -> x.referencesFrom(2));
         Check.noSuchElement("19 nobody", () -> x.referencesFor(3));
         Check.noSuchElement("20 nobody", () -> x.referencesFrom(-1));
     }

@@ -22,7 +22,7 @@ public final class UndoTest {
         changes.add(() -> x.addApplicant('n', 80, 50));
         changes.add(() -> x.openPost('c', 0, 8, 4));
         changes.add(() -> x.openPost('*', 0, 50, 5));
-        changes.add(() -> x.openPost('*', 0, 50, 6));
+        changes.add(() -> x.openPost('n', 1, 49, 6));
         changes.add(() -> x.addReference(0, 1));
         changes.add(() -> x.addReference(2, 1));
         changes.add(() -> x.removeReference(0, 1));
@@ -32,7 +32,7 @@ public final class UndoTest {
         changes.add(() -> x.dismiss(1));
         changes.add(x::match);
         changes.add(() -> x.closePost(1));
-        changes.add(() -> x.rejectRainy(6));
+        changes.add(() -> x.rejectRainy(40));
         changes.add(() -> Check.execute(x, "apply c5/5;day;match"));
         changes.add(() -> x.removeApplicant(1));
         changes.add(x::match);
