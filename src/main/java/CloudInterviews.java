@@ -1294,18 +1294,16 @@ public final class CloudInterviews {
         }
 
         private boolean readPart(char part) {
-            switch (part) {
-                case 'N':
-                    return readNumber(MOST_DIGITS);
-                case 'D':
-                    return readNumber(1);
-                case 'S':
-                    return readShape(false);
-                case 'R':
-                    return readShape(true);
-                default:
-                    return readSign(part);
+            if (part == 'N') {
+                return readNumber(MOST_DIGITS);
             }
+            if (part == 'D') {
+                return readNumber(1);
+            }
+            if (part == 'S' || part == 'R') {
+                return readShape(part == 'R');
+            }
+            return readSign(part);
         }
 
         private boolean readSign(char sign) {

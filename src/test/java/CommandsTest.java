@@ -101,6 +101,9 @@ public final class CommandsTest {
         malformed(x, "matc", 4);
         malformed(x, "apply", 5);
         malformed(x, "apply ", 6);
+        malformed(x, "apply c12/3;", 12);
+        malformed(x, "apply ", 6);
+        malformed(x, "apply c1", 8);
         malformed(x, "apply *1/1", 6);
         malformed(x, "apply 1/1", 6);
         malformed(x, "post 1/1=1", 5);
