@@ -6,6 +6,11 @@ final class Check {
         Object answer();
     }
 
+    /** So many calls may an object get; what later ones answer is free. */
+    static final int MOST_CALLS = 512;
+    /** What digest takes of them on a full board: ten applicants with ninety pairs, six posts, both counts, the day. */
+    static final int DIGEST_CALLS = 1 + 10 * 6 + 90 + 1 + 6 * 5 + 1;
+
     private static int checks = 0;
     private static int wrong = 0;
 
@@ -65,6 +70,20 @@ final class Check {
         return x.execute();
     }
 
+    /** The whole output, whatever its length, up to the first index that is refused. */
+    static String wholeOutput(CloudInterviews x) {
+        StringBuilder text = new StringBuilder();
+        for (int i = 0; i < MOST_CALLS; i++) {
+            int index = i;
+            String found = outcome(() -> x.outputCharacter(index));
+            if (found.length() != 1) {
+                return text.append('|').append(found).toString();
+            }
+            text.append(found);
+        }
+        return text.toString();
+    }
+
     static String output(CloudInterviews x, int length) {
         StringBuilder text = new StringBuilder();
         for (int i = 0; i < length; i++) {
@@ -73,22 +92,26 @@ final class Check {
         return text.toString();
     }
 
-    /** Everything that changes can change, as far as calls that change nothing tell it. */
+    /** Everything that changes can change, as far as calls that change nothing tell it, in at most DIGEST_CALLS calls. */
     static String digest(CloudInterviews x) {
         StringBuilder all = new StringBuilder();
-        for (int i = 0; i < x.applicantCount(); i++) {
-            int id = x.applicant(i);
+        int[] ids = new int[x.applicantCount()];
+        for (int i = 0; i < ids.length; i++) {
+            ids[i] = x.applicant(i);
+        }
+        for (int id : ids) {
             all.append(id).append(x.shape(id)).append(x.whiteness(id)).append('/').append(x.rain(id)).append('$')
                     .append(x.coins(id)).append('@').append(outcome(() -> x.postOf(id))).append('<');
-            for (int j = 0; j < x.applicantCount(); j++) {
-                if (x.hasReference(x.applicant(j), id)) {
-                    all.append(x.applicant(j)).append(',');
+            for (int giver : ids) {
+                if (giver != id && x.hasReference(giver, id)) {
+                    all.append(giver).append(',');
                 }
             }
             all.append(' ');
         }
         all.append('|');
-        for (int post = 0; post < x.postCount(); post++) {
+        int posts = x.postCount();
+        for (int post = 0; post < posts; post++) {
             int p = post;
             all.append(x.requiredShape(p)).append(x.lowestWhiteness(p)).append('/').append(x.highestRain(p)).append('=')
                     .append(x.wage(p)).append('<').append(outcome(() -> x.filledBy(p))).append(' ');

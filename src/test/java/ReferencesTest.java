@@ -63,27 +63,39 @@ public final class ReferencesTest {
     }
 
     private static void leaving() {
+        int[] leavers = {4, 9, 0, 5};
+        for (int leaves = 1; leaves <= leavers.length; leaves++) {
+            CloudInterviews x = withManyReferences();
+            boolean[] left = new boolean[10];
+            for (int i = 0; i < leaves; i++) {
+                x.removeApplicant(leavers[i]);
+                left[leavers[i]] = true;
+            }
+            for (int pair = 0; pair < 100; pair++) {
+                int from = pair / 10;
+                int to = pair % 10;
+                Object due = left[from] || left[to] ? "NoSuchElementException" : isGiven(from, to);
+                Check.due("18 " + from + " for " + to + " after " + leaves, due, () -> x.hasReference(from, to));
+            }
+            int added = x.addApplicant('s', 1, 1);
+            Check.due("19 a new one has none", 0, () -> x.referencesFor(added));
+            Check.due("20 a new one gave none", 0, () -> x.referencesFrom(added));
+        }
+    }
+
+    private static CloudInterviews withManyReferences() {
         CloudInterviews x = withApplicants(10);
         for (int from = 0; from < 10; from++) {
             for (int to = 0; to < 10; to++) {
-                if ((from * 7 + to * 3) % 4 == 1 && from != to) {
+                if (isGiven(from, to)) {
                     x.addReference(from, to);
                 }
             }
         }
-        for (int leaver : new int[] {4, 9, 0, 5}) {
-            x.removeApplicant(leaver);
-            for (int i = 0; i < x.applicantCount(); i++) {
-                for (int j = 0; j < x.applicantCount(); j++) {
-                    int from = x.applicant(i);
-                    int to = x.applicant(j);
-                    Check.due("18 " + from + " for " + to + " after " + leaver,
-                            (from * 7 + to * 3) % 4 == 1 && from != to, () -> x.hasReference(from, to));
-                }
-            }
-        }
-        int added = x.addApplicant('s', 1, 1);
-        Check.due("19 a new one has none", 0, () -> x.referencesFor(added));
-        Check.due("20 a new one gave none", 0, () -> x.referencesFrom(added));
+        return x;
+    }
+
+    private static boolean isGiven(int from, int to) {
+        return (from * 7 + to * 3) % 4 == 1 && from != to;
     }
 }
