@@ -19,6 +19,7 @@ public final class CommandsTest {
         failedCommands();
         longIds();
         allOrNone();
+        leaving();
         keptPositions();
         Check.finish("CommandsTest");
     }
@@ -357,6 +358,24 @@ public final class CommandsTest {
         Check.due("56 a text is undone as a whole", 1, x::undo);
         Check.due("56 its applicant is gone", 1, x::applicantCount);
         Check.due("56 its day too", 0, x::day);
+    }
+
+    /** Who leaves or is dismissed by a text leaves the same behind as by a call. */
+    private static void leaving() {
+        CloudInterviews x = new CloudInterviews();
+        Check.execute(x, "apply c1/1;apply s2/2;apply n3/3;post *0/50=9;post *0/50=8");
+        Check.execute(x, "refer 1>0;refer 0>2;refer 2>0;hire 0<1;hire 1<2;leave 1");
+        Check.due("53 the post of who left is vacant", "- 2", () -> Check.output(x, x.writePosts()));
+        Check.due("53 the reference of who left is lost", "1 1", () -> x.referencesFor(0) + " " + x.referencesFor(2));
+        Check.due("53 close a vacant one", 1, () -> Check.execute(x, "close 0"));
+        Check.due("53 the later index decreases", 0, () -> x.postOf(2));
+        Check.due("53 close a filled one", 1, () -> Check.execute(x, "close 0"));
+        Check.due("53 the applicant waits", false, () -> x.isHired(2));
+        Check.unsupported("53 nothing is left to close", () -> Check.execute(x, "close 0"));
+        Check.due("53 the id is not given again", 3, () -> {
+            Check.execute(x, "apply c4/4");
+            return x.applicant(2);
+        });
     }
 
     private static void keptPositions() {

@@ -6,6 +6,7 @@ public final class HiringTest {
         dismiss();
         match();
         matchLeavesTheHiredAlone();
+        matchInEveryOrder();
         mostHires();
         blockingPairs();
         Check.finish("HiringTest");
@@ -108,6 +109,57 @@ public final class HiringTest {
         x.dismiss(0);
         Check.due("37 the hired one does not move", 2, x::match);
         Check.due("37 who is where now", "2 1 0", () -> Check.output(x, x.writePosts()));
+    }
+
+    /** Four applicants and three posts in every order: who gets what is always the same. */
+    private static void matchInEveryOrder() {
+        char[] shapes = {'c', 's', 'c', 'n'};
+        int[] whiteness = {90, 80, 70, 60};
+        for (int people = 0; people < 24; people++) {
+            for (int offers = 0; offers < 6; offers++) {
+                CloudInterviews x = new CloudInterviews();
+                int[] personOfId = order(4, people);
+                for (int person : personOfId) {
+                    x.addApplicant(shapes[person], whiteness[person], 10);
+                }
+                int[] offerOfPost = order(3, offers);
+                for (int offer : offerOfPost) {
+                    x.openPost(offer == 0 ? 'c' : '*', offer == 1 ? 75 : 0, 50, 30 - offer * 10);
+                }
+                Check.due("37 three of four", 3, x::match);
+                StringBuilder got = new StringBuilder();
+                for (int person = 0; person < 4; person++) {
+                    int post = postOrNone(x, indexOf(personOfId, person));
+                    got.append(post < 0 ? "-" : offerOfPost[post]);
+                }
+                Check.due("37 order " + people + " " + offers, "012-", () -> got);
+            }
+        }
+    }
+
+    private static int postOrNone(CloudInterviews x, int id) {
+        return x.isHired(id) ? x.postOf(id) : -1;
+    }
+
+    private static int indexOf(int[] row, int wanted) {
+        int index = 0;
+        while (row[index] != wanted) {
+            index++;
+        }
+        return index;
+    }
+
+    /** The numbers below a count in one of their orders. */
+    private static int[] order(int count, int number) {
+        int[] order = new int[count];
+        int rest = number;
+        for (int i = 0; i < count; i++) {
+            int place = rest % (i + 1);
+            rest /= i + 1;
+            order[i] = order[place];
+            order[place] = i;
+        }
+        return order;
     }
 
     private static void mostHires() {
